@@ -8,6 +8,7 @@ final class HistoryTest {
         noChanges(c);
         cover(c);
         snapshot(c);
+        everything(c);
     }
 
     private static void constants(Check c) {
@@ -70,6 +71,68 @@ final class HistoryTest {
         c.due("61 bar again", 20, x.barLength());
         c.due("61 the first", 0, x.undo());
         c.due("61 bar at the first", 4, x.barLength());
+    }
+
+    /** All data, as the calls that look at it tell it. */
+    private static String told(CutleryOrchestra x) {
+        StringBuilder text = new StringBuilder();
+        for (int i = 0; i < x.partCount(); i++) {
+            text.append(Check.written(x, i)).append(", ").append(x.partLength(i)).append(" ticks, ")
+                .append(x.soundedTicks(i)).append(" sounded, ").append(x.soloTicks(i)).append(" solos; ");
+        }
+        for (int bar = 0; bar < 12; bar++) {
+            text.append(x.tempoAt(bar)).append(' ');
+        }
+        return text.append(x.barLength()).append(' ').append(x.playedTicks()).toString();
+    }
+
+    private static CutleryOrchestra manyThings() {
+        CutleryOrchestra x = Check.withParts(3);
+        Check.add(x, 0, "5*3 -*2 6*1");
+        Check.add(x, 2, "7*12 8*1");
+        x.setTuning(0, 9, 6);
+        x.setTuning(2, 5, 4);
+        x.setCue(0, 2);
+        x.setCue(2, 1);
+        x.setTempo(4, 80);
+        x.setTempo(8, 90);
+        x.setBar(5);
+        x.play(3);
+        return x;
+    }
+
+    private static void changeAll(CutleryOrchestra x) {
+        x.play(1);
+        Check.run(x, "rest 0 9;last 2;last 2;rest 2 3;tune 2 7/3;alone 0");
+        Check.run(x, "cue 1>0;cue 2>0;tempo 6 70;tempo 0 99;tempo 8 31");
+        Check.run(x, "bar 7;move 0 -5;play 2;part;rest 3 1;tune 3 7/8");
+    }
+
+    /** Undo and the snapshot bring back all data, and what depends on it. */
+    private static void everything(Check c) {
+        CutleryOrchestra x = manyThings();
+        String before = told(x);
+        changeAll(x);
+        for (int i = 0; i < 4; i++) {
+            x.undo();
+        }
+        c.due("61 all data", before, told(x));
+        c.due("61 number of cues", 3, x.setCue(1, 2));
+        c.due("61 number of tempos", 4, x.setTempo(2, 50));
+        x.undo();
+        x.undo();
+        x.saveSnapshot();
+        changeAll(x);
+        x.restoreSnapshot();
+        c.due("63 all data", before, told(x));
+        c.due("63 part as new", 3, x.addPart());
+        c.due("63 part as new", "3(1/1)", Check.written(x, 3));
+        c.due("63 number of cues", 1, x.removeCue(0));
+        c.due("63 number of tempos", 4, x.setTempo(2, 50));
+        Check.type(x, "part;note 4 1 1;cue 4>0;tempo 3 33;play 2;play 0");
+        String after = told(x);
+        c.thrown("56 all or none", Check.STATE, x::execute);
+        c.due("56 all data", after, told(x));
     }
 
     /** The number of changes that can be undone, found by undoing them. */

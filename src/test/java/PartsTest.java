@@ -131,6 +131,16 @@ final class PartsTest {
         c.thrown("6 part -1", Check.INDEX, () -> x.transpose(-1, 0));
         x.addRest(0, 12);
         c.due("6 rests alone", 0, x.transpose(0, 35));
+        // A note that was removed is no hindrance, and does not count.
+        x.addNote(0, 1, 1);
+        x.addNote(0, 35, 1);
+        x.removeLast(0);
+        c.due("6 removed note", 1, x.transpose(0, 5));
+        for (int i = 2; i < 10; i++) {
+            x.addNote(0, 20, 1);
+        }
+        c.due("6 ten notes", 9, x.transpose(0, -6));
+        c.due("6 ten notes' text", "0(1/1) -*12 0*1 14*1 14*1 14*1 14*1 14*1 14*1 14*1 14*1", Check.written(x, 0));
         c.due("6 rest stays", true, x.isRest(0, 0));
     }
 

@@ -2,7 +2,9 @@
 final class PatternsTest {
     static void run(Check c) {
         periods(c);
+        allPeriods(c);
         themes(c);
+        allThemes(c);
     }
 
     private static void duePeriod(Check c, int want, String notes) {
@@ -36,6 +38,36 @@ final class PatternsTest {
         }
     }
 
+    private static CutleryOrchestra withTwoNotes(int... choices) {
+        CutleryOrchestra x = Check.withParts(choices.length);
+        for (int part = 0; part < choices.length; part++) {
+            // The highest bit tells how long the part is; each bit below it is a note or a rest.
+            for (int bit = Integer.highestOneBit(choices[part]) >> 1; bit > 0; bit >>= 1) {
+                if ((choices[part] & bit) == 0) {
+                    x.addRest(part, 3);
+                } else {
+                    x.addNote(part, 0, 3);
+                }
+            }
+        }
+        return x;
+    }
+
+    /** All parts of one to ten notes that are one note or one rest. */
+    private static void allPeriods(Check c) {
+        for (int choice = 2; choice < 2048; choice++) {
+            String bits = Integer.toBinaryString(choice).substring(1);
+            int due = 1;
+            while (!bits.substring(due).equals(bits.substring(0, bits.length() - due))) {
+                due++;
+            }
+            CutleryOrchestra x = withTwoNotes(choice);
+            c.due("18 " + bits, due, x.period(0));
+            c.due("19 " + bits, due, x.periodByTrying(0));
+            c.due("52 " + bits, true, x.isConsistent());
+        }
+    }
+
     private static void dueTheme(Check c, int want, String one, String other) {
         CutleryOrchestra x = Check.withParts(2);
         Check.add(x, 0, one);
@@ -46,6 +78,30 @@ final class PatternsTest {
         c.due("21 back " + one + " : " + other, want, x.commonThemeByTrying(1, 0));
         c.due("20 itself", x.noteCount(0), x.commonTheme(0, 0));
         c.due("21 itself", x.noteCount(1), x.commonThemeByTrying(1, 1));
+    }
+
+    private static int theme(String one, String other) {
+        if (one.isEmpty() || other.isEmpty()) {
+            return 0;
+        }
+        if (one.charAt(0) == other.charAt(0)) {
+            return 1 + theme(one.substring(1), other.substring(1));
+        }
+        return Math.max(theme(one.substring(1), other), theme(one, other.substring(1)));
+    }
+
+    /** All pairs of parts of at most five notes that are one note or one rest. */
+    private static void allThemes(Check c) {
+        for (int first = 1; first < 64; first++) {
+            for (int second = 1; second < 64; second++) {
+                String one = Integer.toBinaryString(first).substring(1);
+                String other = Integer.toBinaryString(second).substring(1);
+                int due = theme(one, other);
+                CutleryOrchestra x = withTwoNotes(first, second);
+                c.due("20 " + one + " " + other, due, x.commonTheme(0, 1));
+                c.due("21 " + one + " " + other, due, x.commonThemeByTrying(0, 1));
+            }
+        }
     }
 
     private static void themes(Check c) {
@@ -70,6 +126,11 @@ final class PatternsTest {
             c.thrown("21 no first", Check.INDEX, () -> x.commonThemeByTrying(part, 0));
             c.thrown("21 no second", Check.INDEX, () -> x.commonThemeByTrying(0, part));
         }
+        x.addNote(0, 2, 2);
+        x.addNote(1, 2, 2);
+        x.removeLast(0);
+        c.due("20 removed note", 0, x.commonTheme(0, 1));
+        c.due("21 removed note", 0, x.commonThemeByTrying(0, 1));
         // A longer table ahead must not shine through.
         CutleryOrchestra y = Check.withParts(3);
         Check.add(y, 0, "1*1 1*1 1*1 1*1 1*1");

@@ -85,6 +85,13 @@ final class PlayingTest {
         c.due("49 two", 17.5, x.meanPitch(0));
         x.addNote(0, 0, 1);
         c.due("49 three", 35.0 / 3.0, x.meanPitch(0));
+        x.removeLast(0);
+        x.removeLast(0);
+        c.due("49 removed notes do not count", 0.0, x.meanPitch(0));
+        x.addNote(1, 31, 3);
+        c.due("49 first note", 31.0, x.meanPitch(1));
+        x.addNote(1, 30, 9);
+        c.due("49 not by lengths", 30.5, x.meanPitch(1));
         c.thrown("49 no part", Check.INDEX, () -> x.meanPitch(2));
         c.thrown("49 part -1", Check.INDEX, () -> x.meanPitch(-1));
     }
@@ -109,6 +116,7 @@ final class PlayingTest {
         x.addRest(0, 7);
         dueShare(c, x, 7, 14);
         x.removeLast(0);
+        dueShare(c, x, 0, 7);
         x.removeLast(0);
         x.addRest(0, 11);
         dueShare(c, x, 11, 11);

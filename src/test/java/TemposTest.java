@@ -50,8 +50,8 @@ final class TemposTest {
         c.due("40 ahead of it", 4, x.setTempo(9, 90));
         c.due("40 after it", 5, x.setTempo(11, 110));
         c.due("40 in place of it", 5, x.setTempo(10, 101));
-        int[] bars = {0, 8, 9, 10, 11, 12, 500};
-        int[] due = {30, 30, 90, 101, 110, 110, 110};
+        int[] bars = {0, 8, 9, 10, 11, 12, 500, 998, 999};
+        int[] due = {30, 30, 90, 101, 110, 110, 110, 110, 240};
         for (int i = 0; i < bars.length; i++) {
             c.due("41 bar " + bars[i], due[i], x.tempoAt(bars[i]));
         }
@@ -79,6 +79,9 @@ final class TemposTest {
         c.due("41 in place of the first", 98, x.tempoAt(9));
         c.due("41 not set", 61, x.tempoAt(15));
         c.due("41 not set later", 99, x.tempoAt(999));
+        // Bars of 120000 by the tempo: 98, 61, 62, 63, 64 and 99.
+        dueStart(c, x, 50, 10L * (1224 + 1967 + 1935 + 1904 + 1875));
+        dueStart(c, x, 999, 10L * (1224 + 1967 + 1935 + 1904 + 1875) + 949L * 1212);
     }
 
     private static void dueStart(Check c, CutleryOrchestra x, int bar, long want) {

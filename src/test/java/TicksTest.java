@@ -3,6 +3,7 @@ final class TicksTest {
     static void run(Check c) {
         noteAt(c);
         sounding(c);
+        fiveParts(c);
         together(c);
         togetherLimit(c);
     }
@@ -45,6 +46,18 @@ final class TicksTest {
             c.thrown("14 tick " + tick, Check.ARGUMENT, () -> x.soundingAt(tick));
             c.thrown("15 tick " + tick, Check.ARGUMENT, () -> x.chordAt(tick));
         }
+    }
+
+    private static void fiveParts(Check c) {
+        CutleryOrchestra x = Check.withParts(5);
+        for (int i = 0; i < 5; i++) {
+            x.addNote(i, 7 * i, 2);
+            x.addRest(i, 1 + i);
+        }
+        c.due("14 all five", 5, x.soundingAt(0));
+        c.due("15 all five", 1L + (1L << 7) + (1L << 14) + (1L << 21) + (1L << 28), x.chordAt(1));
+        c.due("14 none of five", 0, x.soundingAt(2));
+        c.due("15 the last alone", 1L << 28, x.chordAt(14));
     }
 
     private static void dueTogether(Check c, String what, int want, CutleryOrchestra x) {
