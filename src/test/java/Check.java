@@ -26,13 +26,16 @@ final class Check {
     }
 
     void thrown(String what, Class<?> type, Call call) {
-        Object got;
+        due(what, type, answer(call));
+    }
+
+    /** What the call answers, or the class of what it throws. */
+    static Object answer(Call call) {
         try {
-            got = call.run();
+            return call.run();
         } catch (RuntimeException e) {
-            got = e.getClass();
+            return e.getClass();
         }
-        due(what, type, got);
     }
 
     void rejected(String what, CutleryOrchestra x, int reason, int detail, Call call) {

@@ -5,6 +5,8 @@ final class CommandsTest {
         appendInput(c);
         execute(c);
         everyCommand(c);
+        rejectedAtOnce(c);
+        rejectedLater(c);
         failing(c);
         syntax(c);
     }
@@ -119,7 +121,7 @@ final class CommandsTest {
         c.thrown("56 clear", Check.ARGUMENT, x::execute);
     }
 
-    private static void failing(Check c) {
+    private static void rejectedAtOnce(Check c) {
         CutleryOrchestra x = new CutleryOrchestra();
         Check.run(x, "part;part;part;part");
         rejected(c, x, "part;part", 1, CutleryOrchestra.PART_LIMIT);
@@ -127,6 +129,11 @@ final class CommandsTest {
         rejected(c, x, "note 0 1 1;rest 0 4;last 0;last 0;last 0;part", 4, CutleryOrchestra.NO_NOTES);
         rejected(c, x, "note 0 30 1;move 0 6;bar 0", 1, CutleryOrchestra.TOO_HIGH_OR_LOW);
         rejected(c, x, "note 0 30 1;move 0 -31", 1, CutleryOrchestra.TOO_HIGH_OR_LOW);
+        c.due("56 parts unchanged", 4, x.partCount());
+    }
+
+    private static void rejectedLater(Check c) {
+        CutleryOrchestra x = Check.withParts(4);
         rejected(c, x, "cue 0>1;tune 0 2/1;cue 0>1", 2, CutleryOrchestra.SAME_CUE);
         rejected(c, x, "cue 0>1;alone 0;alone 0", 2, CutleryOrchestra.NO_CUE);
         for (int i = 0; i < 10; i++) {
@@ -139,20 +146,25 @@ final class CommandsTest {
         rejected(c, x, "tempo 7 60;tempo 8 60", 1, CutleryOrchestra.TEMPO_LIMIT);
         c.due("56 bar unchanged", 8, x.barLength());
         c.due("56 tempo unchanged", 99, x.tempoAt(7));
-        c.due("56 parts unchanged", 4, x.partCount());
+    }
+
+    private static void failing(Check c) {
         String[] wrong = {
             "last 4", "last 9;play 0", "note 0 36 1", "note 0 1 0", "note 1 1 13", "rest 0 0", "rest 1 13", "move 0 36",
             "move 0 -36", "move 0 -999", "tune 0 0/1", "tune 0 1/100", "cue 0>0", "cue 0>4", "cue 5>0", "alone 4",
             "bar 0", "bar 49", "tempo 0 29", "tempo 0 241", "play 0", "play 21", "bar 5;bar 6;bar 0;alone 0",
         };
         for (String text : wrong) {
+            CutleryOrchestra x = Check.withParts(4);
+            Check.type(x, "bar 9;last 3");
+            c.thrown("56 rejection ahead of " + text, Check.REJECTED, x::execute);
             Check.type(x, text);
             c.thrown("56 " + text, Check.STATE, x::execute);
             c.due("56 rejection stays at " + text, 1, x.rejectionDetail());
+            c.due("56 bar unchanged by " + text, 8, x.barLength());
+            c.thrown("57 no syntax error: " + text, Check.ELEMENT, x::syntaxErrorOffset);
+            c.due("55 empty after " + text, 1, x.appendInput('b'));
         }
-        c.due("56 bar still unchanged", 8, x.barLength());
-        c.due("57 another failure is no syntax error", 0, x.syntaxErrorOffset());
-        c.due("55 empty after a failure", 1, x.appendInput('b'));
     }
 
     private static void dueError(Check c, String text, int offset) {

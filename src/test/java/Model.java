@@ -13,8 +13,8 @@ import java.util.regex.Pattern;
 /** The document once more, written a second time and in other ways; the random runs compare with it. */
 public final class Model {
     private static final String NUMBER = "\\d{1,3}";
-    private static final String COMMAND = "(?:part|note \\d N N|rest \\d N|last \\d|move \\d -?N|tune \\d N/N|cue \\d>\\d"
-        .concat("|alone \\d|bar N|tempo N N|play N)").replace("N", NUMBER);
+    private static final String COMMAND = "(?:part|note \\d N N|rest \\d N|last \\d|move \\d -?N|tune \\d N/N"
+        .concat("|cue \\d>\\d|alone \\d|bar N|tempo N N|play N)").replace("N", NUMBER);
     private static final Pattern INPUT = Pattern.compile(COMMAND + "(?:;" + COMMAND + ")*");
 
     private record Note(int pitch, int length) {

@@ -41,6 +41,7 @@ final class ModelTest {
         int calls = 0;
         for (int i = below(6); i > 0; i--) {
             call("addPart");
+            calls++;
         }
         while (calls < CALLS && same) {
             int kind = below(10);

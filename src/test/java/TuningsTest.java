@@ -84,8 +84,8 @@ final class TuningsTest {
         int[] limits = {1, 2, 3, 7, 13, 20};
         boolean right = true;
         for (int top = 1; top <= 99; top++) {
-            CutleryOrchestra x = Check.withParts(1);
             for (int bottom = 1; bottom <= 99; bottom++) {
+                CutleryOrchestra x = Check.withParts(1);
                 x.setTuning(0, top, bottom);
                 for (int limit : limits) {
                     int[] best = bestOf(top, bottom, limit);
