@@ -235,10 +235,9 @@ final class HistorySentences extends SentenceTest {
             due(0, y.partCount());
             // A snapshot that is restored as soon as it is saved.
             CutleryOrchestra z = States.full();
-            String before = States.told(z);
             z.saveSnapshot();
             z.restoreSnapshot();
-            due(before, States.told(z));
+            due(States.told(States.full()), States.told(z));
         });
         test(63, "No change can be undone after the call.", () -> {
             CutleryOrchestra x = withBars(20);

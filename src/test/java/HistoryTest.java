@@ -8,7 +8,9 @@ final class HistoryTest {
         noChanges(c);
         cover(c);
         snapshot(c);
-        everything(c);
+        everythingUndone(c);
+        everythingRestored(c);
+        everythingOrNothing(c);
     }
 
     private static void constants(Check c) {
@@ -108,8 +110,8 @@ final class HistoryTest {
         Check.run(x, "bar 7;move 0 -5;play 2;part;rest 3 1;tune 3 7/8");
     }
 
-    /** Undo and the snapshot bring back all data, and what depends on it. */
-    private static void everything(Check c) {
+    /** Undo brings back all data, and what depends on it. */
+    private static void everythingUndone(Check c) {
         CutleryOrchestra x = manyThings();
         String before = told(x);
         changeAll(x);
@@ -119,8 +121,12 @@ final class HistoryTest {
         c.due("61 all data", before, told(x));
         c.due("61 number of cues", 3, x.setCue(1, 2));
         c.due("61 number of tempos", 4, x.setTempo(2, 50));
-        x.undo();
-        x.undo();
+    }
+
+    /** So does the snapshot. */
+    private static void everythingRestored(Check c) {
+        CutleryOrchestra x = manyThings();
+        String before = told(x);
         x.saveSnapshot();
         changeAll(x);
         x.restoreSnapshot();
@@ -129,10 +135,16 @@ final class HistoryTest {
         c.due("63 part as new", "3(1/1)", Check.written(x, 3));
         c.due("63 number of cues", 1, x.removeCue(0));
         c.due("63 number of tempos", 4, x.setTempo(2, 50));
+    }
+
+    /** Commands that fail leave all data as they were. */
+    private static void everythingOrNothing(Check c) {
+        CutleryOrchestra x = manyThings();
+        x.addPart();
+        String before = told(x);
         Check.type(x, "part;note 4 1 1;cue 4>0;tempo 3 33;play 2;play 0");
-        String after = told(x);
         c.thrown("56 all or none", Check.STATE, x::execute);
-        c.due("56 all data", after, told(x));
+        c.due("56 all data", before, told(x));
     }
 
     /** The number of changes that can be undone, found by undoing them. */
