@@ -2,23 +2,18 @@ import java.lang.reflect.Constructor;
 import java.lang.reflect.Field;
 import java.lang.reflect.Method;
 import java.lang.reflect.Modifier;
-import java.nio.file.Files;
-import java.nio.file.Path;
 import java.util.TreeSet;
 import java.util.regex.Matcher;
 import java.util.regex.Pattern;
 
 /** The face as the document has it, and the rules of LANGUAGE.md that a scan of the source can tell. */
 final class FaceTest {
-    /** The arguments are the paths of the source and of the document. */
-    static void run(Check c, String[] paths) throws Exception {
-        c.due("paths of the source and the document", 2, paths.length);
-        if (paths.length != 2) {
-            return;
-        }
-        c.due("face", documentFace(Files.readString(Path.of(paths[1]))), classFace());
+    static void run(Check c, String source, String document) throws Exception {
+        c.due("face", documentFace(document), classFace());
+        c.due("constants", documentConstants(document), classConstants());
+        groups(c, source, document);
         nothingElse(c);
-        source(c, Files.readString(Path.of(paths[0])));
+        source(c, source);
     }
 
     private static TreeSet<String> documentFace(String document) {
@@ -42,6 +37,47 @@ final class FaceTest {
             face.add(constructor.getName() + listed(constructor.getParameterTypes()));
         }
         return face;
+    }
+
+    private static TreeSet<String> documentConstants(String document) {
+        TreeSet<String> constants = new TreeSet<>();
+        Matcher line = Pattern.compile("(?m)^    (public static .*);$").matcher(document);
+        while (line.find()) {
+            constants.add(line.group(1));
+        }
+        return constants;
+    }
+
+    private static TreeSet<String> classConstants() throws IllegalAccessException {
+        TreeSet<String> constants = new TreeSet<>();
+        for (Field field : CutleryOrchestra.class.getDeclaredFields()) {
+            if (!Modifier.isPrivate(field.getModifiers())) {
+                constants.add(Modifier.toString(field.getModifiers()) + " " + field.getType() + " " + field.getName()
+                    + " = " + field.get(null));
+            }
+        }
+        return constants;
+    }
+
+    /** What stands ahead of the calls in the document stands ahead of the same calls in the source. */
+    private static void groups(Check c, String source, String document) {
+        int end = 0;
+        int groups = 0;
+        Matcher group = Pattern.compile("Ahead of the calls (.*) the interface says: (---- .*)\\.").matcher(document);
+        while (group.find()) {
+            int at = source.indexOf("    // " + group.group(2) + "\n");
+            c.due("in its order: " + group.group(2), true, at > end);
+            end = source.indexOf("    // ----", at + 1);
+            Matcher call = Pattern.compile("(?m)^    public \\w+ (\\w+)\\(").matcher(source.substring(at, end));
+            StringBuilder calls = new StringBuilder();
+            while (call.find()) {
+                calls.append(calls.length() == 0 ? "`" : ", `").append(call.group(1)).append('`');
+            }
+            c.due("calls under " + group.group(2), group.group(1), calls.toString());
+            end = at;
+            groups++;
+        }
+        c.due("groups of calls", 10, groups);
     }
 
     private static String listed(Class<?>[] types) {
@@ -82,15 +118,10 @@ final class FaceTest {
                 c.due("rule 1: " + method, false, publicNames.contains(method.getName()));
             }
         }
-        int constants = 0;
         for (Field field : type.getDeclaredFields()) {
             int modifiers = field.getModifiers();
-            boolean isPublic = Modifier.isPublic(modifiers);
-            c.due("rule 1: " + field, true, isPublic || Modifier.isPrivate(modifiers));
             c.due("rule 5: " + field, true, !Modifier.isStatic(modifiers) || Modifier.isFinal(modifiers));
-            constants += isPublic ? 1 : 0;
         }
-        c.due("constants", 9, constants);
     }
 
     private static void source(Check c, String source) {
